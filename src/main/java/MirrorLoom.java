@@ -140,7 +140,7 @@ public final class MirrorLoom {
 
     public int whole(int what) throws IllegalArgumentException {
         refuse(isFrom(0, what, WHOLE_VALUES - 1) ? FINE : BAD_ARGUMENT);
-        return wholeValue(what);
+        return loom.wholeValueOf(what, text.length);
     }
 
     // ---- shades
@@ -202,7 +202,13 @@ public final class MirrorLoom {
             return -10 - fault;
         }
         history.save(loom);
-        return carryOutAll();
+        int done = 0;
+        reader.rewind();
+        while (done < MAX_TEXT && reader.readNext() && whyNotCommand() == FINE) {
+            carryOutCommand();
+            done++;
+        }
+        return done;
     }
 
     public int undo() throws IllegalStateException {
@@ -213,7 +219,7 @@ public final class MirrorLoom {
     public long digest() {
         long hash = mixed(43346, history.count);
         for (int what = 0; what < WHOLE_VALUES; what++) {
-            hash = mixed(hash, wholeValue(what));
+            hash = mixed(hash, loom.wholeValueOf(what, text.length));
         }
         hash = mixedCells(hash);
         hash = mixedRows(hash);
@@ -243,23 +249,6 @@ public final class MirrorLoom {
 
     private static boolean isColor(int color) {
         return isFrom(0, color, COLORS - 1);
-    }
-
-    private int wholeValue(int what) {
-        return what == WHOLE_VALUES - 1 ? text.length : loom.wholeValueOf(what);
-    }
-
-    private int carryOutAll() {
-        int done = 0;
-        reader.rewind();
-        while (done < MAX_TEXT && reader.readNext()) {
-            if (whyNotCommand() != FINE) {
-                break;
-            }
-            carryOutCommand();
-            done++;
-        }
-        return done;
     }
 
     private int whyNotCommand() {
@@ -457,26 +446,30 @@ public final class MirrorLoom {
 
     /** A number for each back column and row; a place that is not there reads NONE and takes nothing. */
     private static final class Grid {
-        private final Numbers values = new Numbers(MAX_COLUMNS * MAX_ROWS);
+        private final int[] values = new int[MAX_COLUMNS * MAX_ROWS];
 
         int at(int b, int y) {
-            return values.at(place(b, y));
+            int place = y * MAX_COLUMNS + b;
+            return b >= 0 && b < MAX_COLUMNS && place >= 0 && place < values.length ? values[place] : NONE;
         }
 
         void put(int b, int y, int value) {
-            values.put(place(b, y), value);
+            int place = y * MAX_COLUMNS + b;
+            if (b >= 0 && b < MAX_COLUMNS && place >= 0 && place < values.length) {
+                values[place] = value;
+            }
         }
 
         void putAll(int value) {
-            values.putAll(value);
+            for (int place = 0; place < values.length; place++) {
+                values[place] = value;
+            }
         }
 
         void copyFrom(Grid other) {
-            values.copyFrom(other.values);
-        }
-
-        private static int place(int b, int y) {
-            return isFrom(0, b, MAX_COLUMNS - 1) && isFrom(0, y, MAX_ROWS - 1) ? y * MAX_COLUMNS + b : NONE;
+            for (int place = 0; place < values.length && place < other.values.length; place++) {
+                values[place] = other.values[place];
+            }
         }
 
         boolean startsRun(int b, int y) {
@@ -494,7 +487,7 @@ public final class MirrorLoom {
         int runsOf(int color, int y, int columns) {
             int count = 0;
             for (int b = 0; b < columns; b++) {
-                count += at(b, y) == color && startsRun(b, y) ? 1 : 0;
+                count += at(b, y) == color && at(b - 1, y) != color ? 1 : 0;
             }
             return count;
         }
@@ -1000,8 +993,7 @@ public final class MirrorLoom {
         }
 
         private boolean parts(int b, int y) {
-            int next = wovenColor(b + 1, y);
-            return next != NONE && next != wovenColor(b, y);
+            return y < wovenRows && b + 1 < columns && woven.at(b, y) != woven.at(b + 1, y);
         }
 
         int slitCount(int someLimit) {
@@ -1063,7 +1055,7 @@ public final class MirrorLoom {
 
         // the whole
 
-        int wholeValueOf(int what) {
+        int wholeValueOf(int what, int textLength) {
             switch (what) {
                 case 0: return columns;
                 case 1: return rows;
@@ -1078,7 +1070,8 @@ public final class MirrorLoom {
                 case 10: return gapsAbove(Shades.fromBits(toleranceBits));
                 case 11: return mostShuttles();
                 case 12: return allNewShuttles();
-                default: return limit;
+                case 13: return limit;
+                default: return textLength;
             }
         }
 
