@@ -326,6 +326,11 @@ public final class PromiseTest {
         slits("undo of sew", m, 1, 2, 0, 3, 0);
         m.setLimit(1);
         slits("a lower limit keeps it sewn", m, 0, 0, 0, 3, 1);
+        Due.same("sewn rows of the first column", m.whole(8), 4);
+        m.unweave(3);
+        Due.same("the slit of the first column is forgotten", m.whole(7), 0);
+        m.weave(3);
+        slits("it is not sewn again", m, 0, 0, 0, 3, 0);
         m.unweave(4);
         Due.refused("sew without slits", m, INDEX, () -> m.sew(0));
     }
@@ -473,6 +478,11 @@ public final class PromiseTest {
         float sum = 0.0f + 100f + 100f + 0.000004f;
         sum = sum + 0.000003f + 0.000003f + 0.000003f;
         Due.sameShade("meanShade adds in the order of the back", order.meanShade(0), sum / 6f);
+        MirrorLoom one = new MirrorLoom();
+        one.begin(1, 1);
+        one.addLot(0, 2, bits(1.75f));
+        one.weave(1);
+        Due.sameShade("meanShade of one cell", one.meanShade(0), 1.75f);
         MirrorLoom tiny = new MirrorLoom();
         tiny.addLot(0, 99, 1);
         tiny.weave(1);
@@ -493,6 +503,14 @@ public final class PromiseTest {
         m.begin(1, 1);
         m.weave(1);
         Due.sameShade("contrast of one column", m.contrast(0), 0.0f);
+        MirrorLoom pair = new MirrorLoom();
+        pair.begin(2, 1);
+        pair.addLot(0, 2, bits(1.0f));
+        pair.addLot(0, 1, bits(1.25f));
+        pair.weave(1);
+        Due.sameShade("contrast of two columns", pair.contrast(0), 0.25f);
+        Due.sameShade("a seam of the first two cells", pair.worstSeam(), 0.25f);
+        Due.same("one seam", pair.whole(9), 1);
         MirrorLoom order = new MirrorLoom();
         order.begin(4, 1);
         order.fill(2, 0, 2, 0, 1);
@@ -512,6 +530,13 @@ public final class PromiseTest {
         Due.sameShade("worstSeam without any", m.worstSeam(), 0.0f);
         m.weave(1);
         Due.sameShade("worstSeam", m.worstSeam(), 2.5f);
+        MirrorLoom column = new MirrorLoom();
+        column.begin(1, 2);
+        column.addLot(0, 2, bits(3.0f));
+        column.addLot(0, 2, bits(2.75f));
+        column.weave(2);
+        Due.sameShade("worstSeam in the first column", column.worstSeam(), 0.25f);
+        Due.same("one seam in a column", column.whole(9), 1);
         MirrorLoom down = new MirrorLoom();
         down.begin(2, 3);
         down.addLot(0, 3, bits(50.0f));
@@ -548,6 +573,8 @@ public final class PromiseTest {
         MirrorLoom edge = new MirrorLoom();
         edge.addLot(0, 18, 0);
         Due.same("18 units are 2 rows of 9", edge.rowsPossible(), 2);
+        edge.weave(1);
+        Due.same("9 units are left for 1 row", edge.rowsPossible(), 1);
         MirrorLoom under = new MirrorLoom();
         under.addLot(0, 17, 0);
         Due.same("17 units are 1 row of 9", under.rowsPossible(), 1);
@@ -659,7 +686,7 @@ public final class PromiseTest {
             {"cloth 1 ;", 8}, {"cloth 1x1;", 7}, {"cloth 1 2 3;", 10}, {"fill 0 0 1 1;", 12}, {"lot 0 1 2 ", 10},
             {"limit 1;;", 8}, {"limit 1;a", 8}, {"limit 1; sews 1;", 9}, {"limit 1;9", 8}, {"limit\t1;", 5},
             {"limit 1;\n", 8}, {"limit 1; undo", 13}, {"sew 1:", 5}, {"sew /;", 4}, {"x y", 0}, {"`", 0}, {"{", 0},
-            {"w", 0}, {"limit 0001;", 9}, {"z1", 0}};
+            {"w", 0}, {"sew ;sew 1;", 4}, {"sew ;x", 4}, {"xew 1;", 0}, {"limit 0001;", 9}, {"z1", 0}};
         for (Object[] fault : faults) {
             MirrorLoom m = new MirrorLoom();
             Due.same("fault of \"" + fault[0] + "\"", run(m, (String) fault[0]), -10 - (Integer) fault[1]);
@@ -745,6 +772,18 @@ public final class PromiseTest {
         again.weave(1);
         again.undo();
         Due.same("mistakes and sewn slits are back", again.whole(4) * 10 + again.whole(7), 11);
+        MirrorLoom other = woven(1);
+        other.unweave(1);
+        other.plant(0, 2);
+        other.weave(1);
+        Due.same("woven again with a mistake", other.cell(5, 0, 2), 3);
+        other.undo();
+        other.undo();
+        Due.same("undo gives the yarn back", other.lot(0, 2), 28);
+        other.undo();
+        Due.same("the first color is back", other.cell(5, 0, 1), 0);
+        Due.same("the first lot is back", other.cell(5, 0, 2), 0);
+        Due.same("what was left is back", other.lot(0, 2), 24);
         MirrorLoom nothing = new MirrorLoom();
         nothing.setLimit(3);
         nothing.fill(0, 0, 0, 0, 0);
@@ -804,6 +843,10 @@ public final class PromiseTest {
         w.sew(1);
         w.type('x');
         Due.same("digest with slits", w.digest(), digestOf(w, 4));
+        MirrorLoom s = striped();
+        s.weave(7);
+        s.sew(0);
+        Due.same("digest with a slit of the first column", s.digest(), digestOf(s, 4));
         long before = w.digest();
         w.clearCommands();
         w.type('y');
