@@ -46,58 +46,9 @@ public final class PromiseTest {
         return m;
     }
 
-    private static void type(MirrorLoom m, String text) {
-        for (int i = 0; i < text.length(); i++) {
-            m.type(text.charAt(i));
-        }
-    }
-
-    private static int run(MirrorLoom m, String text) {
-        m.clearCommands();
-        type(m, text);
-        return m.runCommands();
-    }
-
-    private static void wholes(String name, MirrorLoom m, int... want) {
-        for (int what = 0; what < want.length; what++) {
-            Due.same(name + ": whole(" + what + ")", m.whole(what), want[what]);
-        }
-    }
-
-    private static void rows(String name, MirrorLoom m, int y, int... want) {
-        for (int what = 0; what < want.length; what++) {
-            Due.same(name + ": row(" + y + ", " + what + ")", m.row(y, what), want[what]);
-        }
-    }
-
-    private static void colors(String name, MirrorLoom m, int color, int... want) {
-        for (int what = 0; what < want.length; what++) {
-            Due.same(name + ": color(" + color + ", " + what + ")", m.color(color, what), want[what]);
-        }
-    }
-
-    private static void lots(String name, MirrorLoom m, int lot, int... want) {
-        for (int what = 0; what < want.length; what++) {
-            Due.same(name + ": lot(" + lot + ", " + what + ")", m.lot(lot, what), want[what]);
-        }
-    }
-
-    private static void slits(String name, MirrorLoom m, int index, int... want) {
-        for (int what = 0; what < want.length; what++) {
-            Due.same(name + ": slit(" + index + ", " + what + ")", m.slit(index, what), want[what]);
-        }
-    }
-
-    /** The lots of a woven row, from the back column 0 on. */
-    private static void rowLots(String name, MirrorLoom m, int y, int... want) {
-        for (int b = 0; b < want.length; b++) {
-            Due.same(name + ": lot at the back column " + b + " of row " + y, m.cell(want.length - 1 - b, y, 2), want[b]);
-        }
-    }
-
     private static void promise1() {
         MirrorLoom m = new MirrorLoom();
-        wholes("new", m, 8, 6, 0, 0, 0, 0, 0, 0, 0, 0, 0, 0, 0, 3, 0);
+        Due.wholes("new", m, 8, 6, 0, 0, 0, 0, 0, 0, 0, 0, 0, 0, 0, 3, 0);
         Due.same("NONE", MirrorLoom.NONE, -1);
         Due.same("new: cells of color 0", m.color(0, 0), 48);
         Due.same("new: tolerance", m.setTolerance(0), bits(2.0f));
@@ -112,7 +63,7 @@ public final class PromiseTest {
         m.plant(0, 5);
         m.sew(0);
         Due.same("begin", m.begin(20, 16), 4);
-        wholes("begin", m, 20, 16, 0, 4, 0, 0, 0, 0, 0, 0, 0, 0, 0, 2, 0);
+        Due.wholes("begin", m, 20, 16, 0, 4, 0, 0, 0, 0, 0, 0, 0, 0, 0, 2, 0);
         Due.same("begin: all of color 0", m.color(0, 0), 320);
         Due.same("begin: what is left", m.lot(0, 2), 12);
         Due.same("begin: not woven", m.cell(19, 0, 1), -1);
@@ -164,8 +115,8 @@ public final class PromiseTest {
         MirrorLoom m = new MirrorLoom();
         Due.same("addLot", m.addLot(7, 999, bits(100.0f)), 0);
         Due.same("addLot -0.0f", m.addLot(0, 1, MINUS_ZERO), 1);
-        lots("addLot", m, 0, 7, 999, 999, bits(100.0f), 0, 1);
-        lots("addLot -0.0f", m, 1, 0, 1, 1, MINUS_ZERO, 0, 1);
+        Due.lots("addLot", m, 0, 7, 999, 999, bits(100.0f), 0, 1);
+        Due.lots("addLot -0.0f", m, 1, 0, 1, 1, MINUS_ZERO, 0, 1);
         Due.refused("addLot color -1", m, ARGUMENT, () -> m.addLot(-1, 1, 0));
         Due.refused("addLot color 8", m, ARGUMENT, () -> m.addLot(8, 1, 0));
         Due.refused("addLot length 0", m, ARGUMENT, () -> m.addLot(0, 0, 0));
@@ -209,7 +160,7 @@ public final class PromiseTest {
         Due.same("sewn slits are forgotten", m.whole(7), 0);
         Due.same("setLimit 16", m.setLimit(16), 5);
         Due.same("setLimit again", m.setLimit(4), 16);
-        slits("a forgotten slit is not sewn", m, 1, 2, 0, 4, 0);
+        Due.slits("a forgotten slit is not sewn", m, 1, 2, 0, 4, 0);
         Due.refused("setLimit 0", m, ARGUMENT, () -> m.setLimit(0));
         Due.refused("setLimit 17", m, ARGUMENT, () -> m.setLimit(17));
         Due.refused("setLimit -1", m, ARGUMENT, () -> m.setLimit(-1));
@@ -217,7 +168,7 @@ public final class PromiseTest {
         Due.same("undo of setLimit", m.whole(13), 16);
         m.undo();
         m.undo();
-        slits("undo remembers what was sewn", m, 1, 2, 0, 4, 1);
+        Due.slits("undo remembers what was sewn", m, 1, 2, 0, 4, 1);
     }
 
     private static void promise7() {
@@ -250,14 +201,14 @@ public final class PromiseTest {
     private static void promise8() {
         MirrorLoom m = tapestry();
         Due.same("weave 1", m.weave(1), 1);
-        rowLots("the first row", m, 0, 0, 0, 0, 1, 1, 0);
+        Due.rowLots("the first row", m, 0, 0, 0, 0, 1, 1, 0);
         Due.same("lot 0 gave 4 cells and 2 runs", m.lot(0, 2), 24);
         Due.same("lot 1 gave 2 cells and 1 run", m.lot(1, 2), 5);
         Due.same("weave 2", m.weave(2), 2);
-        rowLots("a lot that ends within a run", m, 2, 3, 3, 0, 1, 2, 0);
+        Due.rowLots("a lot that ends within a run", m, 2, 3, 3, 0, 1, 2, 0);
         Due.same("lot 1 is at its end", m.lot(1, 2), 0);
         Due.same("weave the rest", m.weave(16), 2);
-        rowLots("the last row", m, 4, 0, 0, 0, 2, 2, 0);
+        Due.rowLots("the last row", m, 4, 0, 0, 0, 2, 2, 0);
         Due.same("weave when all are woven", m.weave(1), 0);
         Due.same("weave saved a state for it", m.undo(), 3);
         Due.refused("weave 0", m, ARGUMENT, () -> m.weave(0));
@@ -271,13 +222,13 @@ public final class PromiseTest {
         Due.same("all of lot 0", edge.lot(0, 2), 0);
         edge.addLot(0, 1, 0);
         Due.same("4 units of two lots are enough", edge.weave(4), 1);
-        rowLots("two lots", edge, 1, 1, 1, 2);
+        Due.rowLots("two lots", edge, 1, 1, 1, 2);
         MirrorLoom run = new MirrorLoom();
         run.begin(2, 2);
         run.addLot(0, 1, 0);
         run.addLot(0, 5, 0);
         run.weave(1);
-        rowLots("the run took the only unit of the first lot", run, 0, 1, 1);
+        Due.rowLots("the run took the only unit of the first lot", run, 0, 1, 1);
     }
 
     private static void promise9() {
@@ -312,25 +263,25 @@ public final class PromiseTest {
         Due.refused("sew MAX", m, INDEX, () -> m.sew(MAX));
         Due.same("sewn rows", m.whole(8), 6);
         m.weave(4);
-        slits("it became longer", m, 1, 2, 0, 9, 1);
+        Due.slits("it became longer", m, 1, 2, 0, 9, 1);
         Due.same("sewn rows of the longer one", m.whole(8), 10);
         m.unweave(6);
-        slits("it became shorter", m, 1, 2, 0, 3, 1);
+        Due.slits("it became shorter", m, 1, 2, 0, 3, 1);
         m.unweave(1);
         Due.same("it is no slit any more", m.whole(7), 0);
         m.weave(1);
-        slits("it is forgotten", m, 1, 2, 0, 3, 0);
+        Due.slits("it is forgotten", m, 1, 2, 0, 3, 0);
         Due.same("sew 0", m.sew(0), 1);
         Due.same("sew 1", m.sew(1), 0);
         Due.same("sew is undoable", m.undo(), 3);
-        slits("undo of sew", m, 1, 2, 0, 3, 0);
+        Due.slits("undo of sew", m, 1, 2, 0, 3, 0);
         m.setLimit(1);
-        slits("a lower limit keeps it sewn", m, 0, 0, 0, 3, 1);
+        Due.slits("a lower limit keeps it sewn", m, 0, 0, 0, 3, 1);
         Due.same("sewn rows of the first column", m.whole(8), 4);
         m.unweave(3);
         Due.same("the slit of the first column is forgotten", m.whole(7), 0);
         m.weave(3);
-        slits("it is not sewn again", m, 0, 0, 0, 3, 0);
+        Due.slits("it is not sewn again", m, 0, 0, 0, 3, 0);
         m.unweave(4);
         Due.refused("sew without slits", m, INDEX, () -> m.sew(0));
     }
@@ -365,16 +316,16 @@ public final class PromiseTest {
 
     private static void promise12() {
         MirrorLoom m = woven(4);
-        rows("row", m, 0, 3, 3, 0, 9, 2);
-        rows("color 2 is new", m, 1, 4, 1, 0, 10, 3);
-        rows("two lots of color 1", m, 2, 4, 0, 0, 10, 4);
-        rows("row", m, 3, 4, 0, 0, 10, 3);
+        Due.rows("row", m, 0, 3, 3, 0, 9, 2);
+        Due.rows("color 2 is new", m, 1, 4, 1, 0, 10, 3);
+        Due.rows("two lots of color 1", m, 2, 4, 0, 0, 10, 4);
+        Due.rows("row", m, 3, 4, 0, 0, 10, 3);
         m.fill(0, 3, 3, 3, 2);
-        rows("the cartoon as it is now", m, 3, 4, 0, 4, 10, 3);
+        Due.rows("the cartoon as it is now", m, 3, 4, 0, 4, 10, 3);
         m.plant(1, 2);
         m.plant(4, 2);
         m.weave(1);
-        rows("a run beside the shuttle of its color is new", m, 4, 6, 2, 2, 12, 3);
+        Due.rows("a run beside the shuttle of its color is new", m, 4, 6, 2, 2, 12, 3);
         m.unweave(1);
         Due.refused("row -1", m, INDEX, () -> m.row(-1, 0));
         Due.refused("row not woven", m, INDEX, () -> m.row(4, 9));
@@ -388,17 +339,17 @@ public final class PromiseTest {
         slanted.addLot(0, 99, 0);
         slanted.addLot(1, 99, 0);
         slanted.weave(2);
-        rows("one cell of the run is enough", slanted, 1, 2, 1, 0, 6, 2);
+        Due.rows("one cell of the run is enough", slanted, 1, 2, 1, 0, 6, 2);
     }
 
     private static void promise13() {
         MirrorLoom m = woven(2);
-        lots("lot", m, 0, 0, 30, 20, bits(10.0f), 6, 1);
-        lots("lot in use", m, 1, 1, 8, 2, bits(20.0f), 4, 1);
-        lots("lot not in use", m, 2, 1, 40, 40, bits(22.5f), 0, 0);
+        Due.lots("lot", m, 0, 0, 30, 20, bits(10.0f), 6, 1);
+        Due.lots("lot in use", m, 1, 1, 8, 2, bits(20.0f), 4, 1);
+        Due.lots("lot not in use", m, 2, 1, 40, 40, bits(22.5f), 0, 0);
         m.weave(1);
-        lots("lot at its end", m, 1, 1, 8, 0, bits(20.0f), 5, 0);
-        lots("next lot in use", m, 2, 1, 40, 39, bits(22.5f), 1, 1);
+        Due.lots("lot at its end", m, 1, 1, 8, 0, bits(20.0f), 5, 0);
+        Due.lots("next lot in use", m, 2, 1, 40, 39, bits(22.5f), 1, 1);
         Due.refused("lot -1", m, INDEX, () -> m.lot(-1, 9));
         Due.refused("lot 4", m, INDEX, () -> m.lot(4, 0));
         Due.refused("lot what = 6", m, ARGUMENT, () -> m.lot(3, 6));
@@ -411,14 +362,14 @@ public final class PromiseTest {
 
     private static void promise14() {
         MirrorLoom m = woven(2);
-        colors("color", m, 0, 14, 6, 20, 1, 4, 14);
-        colors("color", m, 1, 10, 4, 42, 2, 2, 9);
-        colors("color", m, 2, 6, 2, 17, 1, 1, 6);
-        colors("color without yarn", m, 7, 0, 0, 0, 0, 0, 0);
+        Due.colors("color", m, 0, 14, 6, 20, 1, 4, 14);
+        Due.colors("color", m, 1, 10, 4, 42, 2, 2, 9);
+        Due.colors("color", m, 2, 6, 2, 17, 1, 1, 6);
+        Due.colors("color without yarn", m, 7, 0, 0, 0, 0, 0, 0);
         m.plant(0, 1);
         Due.same("mistakes do not count", m.color(1, 5), 9);
         m.weave(1);
-        colors("color with a mistake woven", m, 1, 10, 7, 37, 2, 4, 6);
+        Due.colors("color with a mistake woven", m, 1, 10, 7, 37, 2, 4, 6);
         Due.refused("color -1", m, ARGUMENT, () -> m.color(-1, 0));
         Due.refused("color 8", m, ARGUMENT, () -> m.color(8, 0));
         Due.refused("color what = -1", m, ARGUMENT, () -> m.color(0, -1));
@@ -431,15 +382,15 @@ public final class PromiseTest {
         m.fill(0, 5, 3, 5, 0);
         m.fill(1, 12, 1, 12, 0);
         m.weave(16);
-        slits("slit", m, 0, 0, 0, 4, 0);
-        slits("slit", m, 1, 0, 6, 15, 0);
-        slits("slit", m, 2, 2, 0, 4, 0);
-        slits("slit", m, 3, 2, 6, 11, 0);
-        slits("no slit", m, 4, -1, -1, -1, -1);
+        Due.slits("slit", m, 0, 0, 0, 4, 0);
+        Due.slits("slit", m, 1, 0, 6, 15, 0);
+        Due.slits("slit", m, 2, 2, 0, 4, 0);
+        Due.slits("slit", m, 3, 2, 6, 11, 0);
+        Due.slits("no slit", m, 4, -1, -1, -1, -1);
         m.sew(3);
-        slits("slit sewn", m, 3, 2, 6, 11, 1);
+        Due.slits("slit sewn", m, 3, 2, 6, 11, 1);
         m.setLimit(1);
-        slits("a slit of 3 rows", m, 4, 2, 13, 15, 0);
+        Due.slits("a slit of 3 rows", m, 4, 2, 13, 15, 0);
         Due.same("slit MAX", m.slit(MAX, 0), -1);
         Due.refused("slit -1", m, ARGUMENT, () -> m.slit(-1, 0));
         Due.refused("slit what = 4", m, ARGUMENT, () -> m.slit(0, 4));
@@ -453,7 +404,7 @@ public final class PromiseTest {
         m.plant(0, 1);
         m.fill(0, 0, 0, 1, 5);
         m.type('x');
-        wholes("whole", m, 6, 5, 4, 4, 1, 2, 3, 1, 3, 3, 3, 4, 4, 2, 1);
+        Due.wholes("whole", m, 6, 5, 4, 4, 1, 2, 3, 1, 3, 3, 3, 4, 4, 2, 1);
         m.sew(2);
         Due.same("rows of all sewn slits", m.whole(8), 7);
         Due.refused("whole -1", m, ARGUMENT, () -> m.whole(-1));
@@ -665,7 +616,7 @@ public final class PromiseTest {
     private static void promise26() {
         MirrorLoom m = new MirrorLoom();
         Due.same("clearCommands without any", m.clearCommands(), 0);
-        type(m, "weave");
+        Hands.type(m, "weave");
         Due.same("clearCommands", m.clearCommands(), 5);
         Due.same("clearCommands again", m.clearCommands(), 0);
         Due.refused("clearCommands is not undoable", m, STATE, () -> m.undo());
@@ -677,7 +628,7 @@ public final class PromiseTest {
             "", "   ", "weave 1;", " weave  001 ;  ", "weave 1;weave 1;", "cloth 5 5;", "fill 0 0 1 1 1;", "lot 1 2 3;",
             "slip 0 1 ;", "limit 2;", "limit 17;", "cloth 0 0;"};
         for (String text : texts) {
-            Due.same("no fault in \"" + text + "\"", Math.min(0, run(new MirrorLoom(), text)), 0);
+            Due.same("no fault in \"" + text + "\"", Math.min(0, Hands.run(new MirrorLoom(), text)), 0);
         }
         Object[][] faults = {
             {";", 0}, {" ;", 1}, {"1", 0}, {"Weave 1;", 0}, {"weaver 1;", 0}, {"weave 1;weav", 8}, {"  weav", 2},
@@ -689,7 +640,7 @@ public final class PromiseTest {
             {"w", 0}, {"sew ;sew 1;", 4}, {"sew ;x", 4}, {"xew 1;", 0}, {"limit 0001;", 9}, {"z1", 0}};
         for (Object[] fault : faults) {
             MirrorLoom m = new MirrorLoom();
-            Due.same("fault of \"" + fault[0] + "\"", run(m, (String) fault[0]), -10 - (Integer) fault[1]);
+            Due.same("fault of \"" + fault[0] + "\"", Hands.run(m, (String) fault[0]), -10 - (Integer) fault[1]);
             Due.same("limit behind a fault", m.whole(13), 3);
             Due.refused("a fault is not undoable", m, STATE, () -> m.undo());
         }
@@ -699,24 +650,24 @@ public final class PromiseTest {
         promise27Faults();
         MirrorLoom m = new MirrorLoom();
         String text = "cloth 6 5; fill 1 0 2 4 1;lot 0 40 10; lot 1 40 020;slip 5 1 ;weave 4;undo 1;limit 2;sew 0;";
-        Due.same("runCommands", run(m, text), 9);
-        wholes("runCommands", m, 6, 5, 3, 2, 0, 1, 1, 1, 3, 0, 0, 3, 3, 2, text.length());
+        Due.same("runCommands", Hands.run(m, text), 9);
+        Due.wholes("runCommands", m, 6, 5, 3, 2, 0, 1, 1, 1, 3, 0, 0, 3, 3, 2, text.length());
         Due.same("shade of a lot of commands", m.lot(1, 3), bits(20.0f));
         Due.same("a run saves one state", m.undo(), 0);
-        wholes("undo of a run leaves the text", m, 8, 6, 0, 0, 0, 0, 0, 0, 0, 0, 0, 0, 0, 3, text.length());
+        Due.wholes("undo of a run leaves the text", m, 8, 6, 0, 0, 0, 0, 0, 0, 0, 0, 0, 0, 0, 3, text.length());
         Due.same("the text can run again", m.runCommands(), 9);
-        Due.same("the second command would throw", run(m, "limit 5;weave 0;limit 6;"), 1);
+        Due.same("the second command would throw", Hands.run(m, "limit 5;weave 0;limit 6;"), 1);
         Due.same("what was ahead of it stays", m.whole(13), 5);
         Object[][] refused = {
             {"cloth 21 1;", 0}, {"fill 0 0 9 0 1;", 0}, {"fill 1 0 0 0 1;", 0}, {"lot 8 1 1;", 0}, {"lot 0 0 1;", 0},
             {"lot 0 1 101;", 0}, {"lot 0 1 100;", 1}, {"lot 0 999 0;", 1}, {"undo 4;", 0}, {"undo 17;", 0}, {"slip 6 0;", 0},
             {"slip 0 8;", 0}, {"sew 99;", 0}, {"limit 0;", 0}, {"limit 16;", 1}, {"weave 17;", 0}, {"weave 16;", 1}};
         for (Object[] pair : refused) {
-            Due.same("run of \"" + pair[0] + "\"", run(m, (String) pair[0]), (Integer) pair[1]);
+            Due.same("run of \"" + pair[0] + "\"", Hands.run(m, (String) pair[0]), (Integer) pair[1]);
         }
         MirrorLoom twice = striped();
         twice.weave(4);
-        Due.same("the second sew would throw", run(twice, "sew 0;sew 0;"), 1);
+        Due.same("the second sew would throw", Hands.run(twice, "sew 0;sew 0;"), 1);
         MirrorLoom empty = new MirrorLoom();
         Due.same("an empty text", empty.runCommands(), 0);
         Due.same("it saves a state, too", empty.undo(), 0);
@@ -725,8 +676,8 @@ public final class PromiseTest {
         for (int k = 0; k < 18; k++) {
             longest.append("limit 4;");
         }
-        Due.same("the longest text", run(full, longest + "  x   "), -10 - 146);
-        Due.same("18 commands", run(full, longest.toString()), 18);
+        Due.same("the longest text", Hands.run(full, longest + "  x   "), -10 - 146);
+        Due.same("18 commands", Hands.run(full, longest.toString()), 18);
     }
 
     private static void promise28() {
