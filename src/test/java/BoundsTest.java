@@ -11,7 +11,10 @@ public final class BoundsTest {
     private BoundsTest() {
     }
 
-    /** Promise 1: "8 columns and 6 rows without lots, with nothing woven, .. an empty command text and an empty undo stack". */
+    /**
+     * Promise 1: "8 columns and 6 rows without lots, with nothing woven, .. an empty command text and an empty undo
+     * stack".
+     */
     private static void newObject() {
         MirrorLoom m = Edge.FRESH.make();
         Due.wholes("new", m, 8, 6, 0, 0, 0, 0, 0, 0, 0, 0, 0, 0, 0, 3, 0);
@@ -22,7 +25,9 @@ public final class BoundsTest {
         Due.same("objects know nothing of each other", new MirrorLoom().whole(3) + used.whole(3), 16);
     }
 
-    /** Promise 2: "of color 0, with nothing woven and no mistakes planted; lots, with what is left of them, .. stay". */
+    /**
+     * Promise 2: "of color 0, with nothing woven and no mistakes planted; lots, with what is left of them, .. stay".
+     */
     private static void begin() {
         MirrorLoom m = Edge.FULL.make();
         Due.same("16 rows were woven", m.begin(1, 1), 16);
@@ -40,7 +45,9 @@ public final class BoundsTest {
         Due.same("one row was woven", half.begin(5, 6), 1);
     }
 
-    /** Promise 2, a smaller cartoon behind the largest one, each width of it: nothing of the woven larger one is seen. */
+    /**
+     * Promise 2, a smaller cartoon behind the largest one, each width of it: nothing of the woven larger one is seen.
+     */
     private static void smallerCartoon() {
         for (int columns = 1; columns <= 20; columns++) {
             int rows = Math.min(columns, 16);
@@ -69,7 +76,10 @@ public final class BoundsTest {
         }
     }
 
-    /** Promise 3: a rectangle of one cell in each corner, of a row, of a column and of all; "the number of cells whose color was another one". */
+    /**
+     * Promise 3: a rectangle of one cell in each corner, of a row, of a column and of all; "the number of cells whose
+     * color was another one".
+     */
     private static void fill() {
         MirrorLoom m = new MirrorLoom();
         m.begin(20, 16);

@@ -1,4 +1,6 @@
-/** Looms at the edges of what the document allows. Each is made anew by the same calls, so that twins can be compared. */
+/**
+ * Looms at the edges of what the document allows. Each is made anew by the same calls, so that twins can be compared.
+ */
 enum Edge {
     /** A new object: no lot, nothing woven, no text, an empty undo stack. */
     FRESH {
@@ -61,7 +63,10 @@ enum Edge {
         }
     },
 
-    /** 20 columns of colors 0 and 1 by turns, 16 rows, all woven of 16 lots that are used up; a full text and a full stack. */
+    /**
+     * 20 columns of colors 0 and 1 by turns, 16 rows, all woven of 16 lots that are used up; a full text and a full
+     * stack.
+     */
     FULL {
         MirrorLoom make() {
             MirrorLoom m = new MirrorLoom();

@@ -153,7 +153,10 @@ public final class TermsTest {
         Due.rowLots("the first row behind it", m, 0, 0, 1);
     }
 
-    /** "that of the cartoon at its place of the front, unless a mistake was planted there": in the first and last columns. */
+    /**
+     * "that of the cartoon at its place of the front, unless a mistake was planted there": in the first and last
+     * columns.
+     */
     private static void colorOfWovenCells() {
         MirrorLoom m = Hands.plain(20, 16, 999);
         m.addLot(5, 99, 0);
@@ -230,7 +233,10 @@ public final class TermsTest {
         Due.same("below its color", m.row(2, 1), 0);
     }
 
-    /** "For each run, ahead of its first cell, 1 unit .. is taken; then for each of its cells 1 unit of the lot .. in use then". */
+    /**
+     * "For each run, ahead of its first cell, 1 unit .. is taken; then for each of its cells 1 unit of the lot .. in
+     * use then".
+     */
     private static void unitsOfRuns() {
         MirrorLoom m = Hands.plain(3, 1, 1, 1, 1, 1);
         m.weave(1);
@@ -246,7 +252,10 @@ public final class TermsTest {
         Due.rows("it took 6 units", two, 0, 3, 3, 0, 6, 3);
     }
 
-    /** "can only be woven if for each color that it needs at least so many units are left in all lots of the color together". */
+    /**
+     * "can only be woven if for each color that it needs at least so many units are left in all lots of the color
+     * together".
+     */
     private static void enoughYarn() {
         MirrorLoom m = Hands.plain(2, 2, 2);
         Due.same("one unit too few", m.weave(2), 0);
@@ -541,7 +550,10 @@ public final class TermsTest {
         Due.same("nothing woven", Edge.LOTS.make().whole(9), 0);
     }
 
-    /** "It can be seen if the absolute value of the difference of the shades .. is greater than the tolerance (..; 2.0f at first)." */
+    /**
+     * "It can be seen if the absolute value of the difference of the shades .. is greater than the tolerance (..;
+     * 2.0f at first)."
+     */
     private static void seenSeams() {
         Due.same("2.0f at first: the next float above it", seen(10.0f, 12.000001f), 1);
         Due.same("just as great", seen(10.0f, 12.0f), 0);
@@ -623,7 +635,10 @@ public final class TermsTest {
         }
     }
 
-    /** "the whole state": cells that are woven again in another way, in a cartoon of another size, come back as they were. */
+    /**
+     * "the whole state": cells that are woven again in another way, in a cartoon of another size, come back as they
+     * were.
+     */
     private static void wovenCellsAreSaved() {
         MirrorLoom m = Edge.FULL.make();
         m.unweave(1);

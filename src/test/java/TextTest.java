@@ -63,7 +63,9 @@ public final class TextTest {
         }
     }
 
-    /** "or the length of the text if it ends too soon", be it ever so short; but a word that is none is complete then. */
+    /**
+     * "or the length of the text if it ends too soon", be it ever so short; but a word that is none is complete then.
+     */
     private static void endsTooSoon() {
         for (int word = 0; word < WORDS.length; word++) {
             String text = command(word, "  012") + command(word, " 7").replace(";", " ;");
@@ -109,7 +111,10 @@ public final class TextTest {
         }
     }
 
-    /** Unknown at the start and behind a command, whatever follows it: "a byte that is no letter, or the end of the text". */
+    /**
+     * Unknown at the start and behind a command, whatever follows it: "a byte that is no letter, or the end of the
+     * text".
+     */
     private static void unknown(String word) {
         for (String end : new String[] {"", " ", " 1;", ";", "1", "#", "X", " 1 2 3 4 5 6;"}) {
             faultIs(word + end, 0);
@@ -202,7 +207,10 @@ public final class TextTest {
         everyByteBehind("slip 1 2 ", value -> value == ';' ? NO_FAULT : value == ' ' ? 10 : 9);
     }
 
-    /** "(That a number is out of its range is no fault.)": each such command would throw, each at an end of its range is done. */
+    /**
+     * "(That a number is out of its range is no fault.)": each such command would throw, each at an end of its range
+     * is done.
+     */
     private static void ranges() {
         String[] refused = {
             "cloth 0 1;", "cloth 21 1;", "cloth 1 0;", "cloth 1 17;", "cloth 999 999;", "fill 20 0 19 0 0;", "fill 0 16 0 15 0;",
@@ -288,7 +296,10 @@ public final class TextTest {
         }
     }
 
-    /** "until one of them would throw ..; those before it stay done, and they alone count": the first to the last of six. */
+    /**
+     * "until one of them would throw ..; those before it stay done, and they alone count": the first to the last of
+     * six.
+     */
     private static void untilOneWouldThrow() {
         for (int bad = 0; bad <= 6; bad++) {
             StringBuilder text = new StringBuilder();
